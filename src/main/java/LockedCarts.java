@@ -298,24 +298,33 @@ public final class LockedCarts {
             flagCount = other.flagCount;
         }
 
-        boolean isPit(int cell) {
-            return kinds[cell] == PIT;
+        /** The kind of a cell, NONE off the board. */
+        int kindOn(int cell) {
+            return cell >= 0 && cell < CELLS ? kinds[cell] : NONE;
         }
 
-        boolean isBelt(int cell) {
-            return kinds[cell] >= FIRST_BELT && kinds[cell] <= LAST_BELT;
+        boolean isPit(int cell) {
+            return cell >= 0 && cell < CELLS && kinds[cell] == PIT;
+        }
+
+        /** The sides of a cell with walls, as bits. */
+        int wallsOf(int cell) {
+            return cell >= 0 && cell < CELLS ? walls[cell] : 0;
         }
 
         boolean hasWall(int cell, int side) {
-            return (walls[cell] >> side & 1) != 0;
+            return cell >= 0 && cell < CELLS && (walls[cell] >> side & 1) != 0;
         }
 
         /** A wall stands on a side of both cells; at the edge there is only one. */
         void flipWall(int cell, int side) {
-            walls[cell] ^= 1 << side;
-            int beyond = neighbour(cell, side);
-            if (beyond != NONE) {
-                walls[beyond] ^= 1 << turned(side, HALF);
+            flipSide(cell, side);
+            flipSide(neighbour(cell, side), turned(side, HALF));
+        }
+
+        private void flipSide(int cell, int side) {
+            if (cell >= 0 && cell < CELLS) {
+                walls[cell] ^= 1 << side;
             }
         }
 
@@ -330,6 +339,9 @@ public final class LockedCarts {
 
         /** The next cell in a direction, NONE if it is off the board. */
         static int neighbour(int cell, int direction) {
+            if (cell < 0 || cell >= CELLS) {
+                return NONE;
+            }
             int x = cell % SIZE;
             switch (direction) {
                 case 0:
@@ -492,10 +504,10 @@ public final class LockedCarts {
             return n >= 0 && n < cartCount;
         }
 
-        /** The number of the cart on a cell, or NONE. */
+        /** The number of the cart on a cell, NONE if there is none or no such cell. */
         int cartOn(int cell) {
             for (int n = 0; n < cartCount; n++) {
-                if (carts[n].cell == cell) {
+                if (carts[n].cell == cell && cell != NONE) {
                     return n;
                 }
             }
@@ -523,9 +535,9 @@ public final class LockedCarts {
         int cellValue(int cell, int what) {
             switch (what) {
                 case 0:
-                    return board.kinds[cell];
+                    return board.kindOn(cell);
                 case 1:
-                    return board.walls[cell];
+                    return board.wallsOf(cell);
                 case 2:
                     return cartOn(cell) == NONE ? NOT_FOUND : cartOn(cell);
                 default:
@@ -607,7 +619,7 @@ public final class LockedCarts {
 
         /** Puts a cart on a cell, or out, if the cell is off the board or a pit. */
         void enter(Cart cart, int cell) {
-            if (cell == NONE || board.kinds[cell] == PIT) {
+            if (cell < 0 || cell >= CELLS || board.kinds[cell] == PIT) {
                 cart.cell = NONE;
                 cart.timesOut++;
             } else {
@@ -618,7 +630,7 @@ public final class LockedCarts {
         void turnOnGears() {
             for (int n = 0; n < cartCount; n++) {
                 Cart cart = carts[n];
-                int kind = cart.isOut() ? NONE : board.kinds[cart.cell];
+                int kind = board.kindOn(cart.cell);
                 if (kind == GEAR_LEFT) {
                     cart.direction = turned(cart.direction, QUARTER_LEFT);
                 } else if (kind == GEAR_RIGHT) {
@@ -651,7 +663,7 @@ public final class LockedCarts {
         void repairAndClear() {
             for (int n = 0; n < cartCount; n++) {
                 Cart cart = carts[n];
-                if (!cart.isOut() && board.kinds[cart.cell] == REPAIR) {
+                if (board.kindOn(cart.cell) == REPAIR) {
                     cart.addDamage(-1);
                 }
                 cart.emptyRegisters(cart.unlockedRegisters());
@@ -834,8 +846,7 @@ public final class LockedCarts {
                 }
                 chain[length] = next;
                 length++;
-                int ahead = Board.neighbour(cell, direction);
-                next = ahead == NONE ? NONE : race.cartOn(ahead);
+                next = race.cartOn(Board.neighbour(cell, direction));
             }
             for (int i = 0; i < length; i++) {
                 Cart cart = race.carts[chain[i]];
@@ -879,14 +890,11 @@ public final class LockedCarts {
         private void askAll(Race race) {
             for (int n = 0; n < race.cartCount; n++) {
                 int cell = race.carts[n].cell;
-                onBelt[n] = cell != NONE && race.board.isBelt(cell);
-                wanted[n] = NONE;
-                carried[n] = false;
-                if (onBelt[n]) {
-                    int direction = race.board.kinds[cell] - FIRST_BELT;
-                    wanted[n] = Board.neighbour(cell, direction);
-                    carried[n] = !race.board.hasWall(cell, direction);
-                }
+                int kind = race.board.kindOn(cell);
+                int direction = kind - FIRST_BELT;
+                onBelt[n] = kind >= FIRST_BELT && kind <= LAST_BELT;
+                wanted[n] = onBelt[n] ? Board.neighbour(cell, direction) : NONE;
+                carried[n] = onBelt[n] && !race.board.hasWall(cell, direction);
             }
         }
 
@@ -907,7 +915,7 @@ public final class LockedCarts {
 
         /** Whether a cart that is not carried is on the cell to which this one wants. */
         private boolean isBlocked(Race race, int n) {
-            int ahead = wanted[n] == NONE ? NONE : race.cartOn(wanted[n]);
+            int ahead = race.cartOn(wanted[n]);
             return ahead != NONE && !carried[ahead];
         }
     }
