@@ -386,15 +386,11 @@ public final class LockedCarts {
             timesStopped = other.timesStopped;
         }
 
+        /** Brings a cart in that no state has had yet: all else of it is as new. */
         void begin(int atCell, int inDirection) {
             start = atCell;
             cell = atCell;
             direction = inDirection;
-            damage = 0;
-            touched = 0;
-            timesOut = 0;
-            timesStopped = 0;
-            emptyRegisters(REGISTERS);
         }
 
         boolean isOut() {
@@ -419,7 +415,6 @@ public final class LockedCarts {
         }
 
         void emptyRegisters(int howMany) {
-            Arrays.fill(moves, 0, howMany, 0);
             Arrays.fill(ranks, 0, howMany, 0);
         }
 
@@ -738,8 +733,8 @@ public final class LockedCarts {
                 return NOT_POSSIBLE;
             }
             int timesOut = race.timesOut();
-            cards.arrange(race);
-            for (int place = 0; place < cards.inTurn; place++) {
+            int inTurn = cards.arrange(race);
+            for (int place = 0; place < inTurn; place++) {
                 cards.follow(race, cards.order[place]);
             }
             belts.carry(race);
@@ -765,38 +760,39 @@ public final class LockedCarts {
         }
 
         int cartInTurn(Race race, int place) {
-            cards.arrange(race);
-            return place < cards.inTurn ? cards.order[place] : NOT_FOUND;
+            return place < cards.arrange(race) ? cards.order[place] : NOT_FOUND;
         }
     }
 
     /** The cards of a phase, and the steps and turns that they make. */
     private static final class Cards {
         final int[] order = new int[MAX_CARTS];
-        int inTurn;
         /** The stepping cart and those that it pushes, each ahead of the one before. */
         private final int[] chain = new int[MAX_CARTS];
 
-        /** Sets the order of the carts whose cards come in the next phase. */
-        void arrange(Race race) {
-            inTurn = 0;
+        /** Sets the order of the carts whose cards come in the next phase, and answers how many they are. */
+        int arrange(Race race) {
+            int inTurn = 0;
             for (int n = 0; n < race.cartCount; n++) {
                 Cart cart = race.carts[n];
                 if (!cart.isOut() && cart.hasCard(race.nextPhase)) {
-                    insert(race, n, cart.ranks[race.nextPhase]);
+                    insert(race, n, inTurn);
+                    inTurn++;
                 }
             }
+            return inTurn;
         }
 
         /** Carts are inserted by their numbers, so that of equal ranks the lowest cart stays ahead. */
-        private void insert(Race race, int n, int rank) {
+        private void insert(Race race, int n, int inTurn) {
+            int register = race.nextPhase;
+            int rank = race.carts[n].ranks[register];
             int place = inTurn;
-            while (place > 0 && race.carts[order[place - 1]].ranks[race.nextPhase] < rank) {
+            while (place > 0 && race.carts[order[place - 1]].ranks[register] < rank) {
                 order[place] = order[place - 1];
                 place--;
             }
             order[place] = n;
-            inTurn++;
         }
 
         void follow(Race race, int n) {
@@ -930,7 +926,7 @@ public final class LockedCarts {
             Arrays.fill(distances, NONE);
             queued = 0;
             reach(from, 0);
-            for (int i = 0; i < queued && distances[to] == NONE; i++) {
+            for (int i = 0; i < CELLS && i < queued && distances[to] == NONE; i++) {
                 reachAround(board, queue[i]);
             }
             return distances[to] == NONE ? NOT_FOUND : distances[to];

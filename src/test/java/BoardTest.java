@@ -85,6 +85,10 @@ public final class BoardTest {
             Check.due("wall at the edge " + side, x.wall(edges[side], side), 1);
             Check.due("walls at the edge " + side, x.cellOf(edges[side], 1), 1 << side);
         }
+        Check.due("wall(0, 3)", x.wall(0, 3), 1);
+        Check.due("walls of 0", x.cellOf(0, 1), 8);
+        Check.due("wall(63, 2)", x.wall(63, 2), 1);
+        Check.due("walls of 63", x.cellOf(63, 1), 4);
         Check.due("no wall around a row's end", x.cellOf(40, 1), 0);
         Check.due("no wall ahead of a row's begin", x.cellOf(23, 1), 0);
         Check.due("wall(24, 3) taken away", x.wall(24, 3), 0);

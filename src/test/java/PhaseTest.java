@@ -19,6 +19,7 @@ public final class PhaseTest {
         turns();
         gears();
         flags();
+        allFlags();
         winner();
         Check.finish();
     }
@@ -319,6 +320,23 @@ public final class PhaseTest {
         y.kind(34, 2);
         y.phase();
         Check.due("a flag to which a belt carries", y.cartOf(1, 3), 1);
+    }
+
+    private static void allFlags() {
+        LockedCarts x = new LockedCarts();
+        x.cart(0, 1);
+        x.phase();
+        Check.due("a flag that is not laid", x.cartOf(0, 3), 0);
+        for (int flag = 0; flag < 4; flag++) {
+            x.flag(flag, 0);
+        }
+        for (int touched = 1; touched <= 4; touched++) {
+            x.phase();
+            Check.due("flags touched", x.cartOf(0, 3), touched);
+            Check.due("the first", x.count(5), touched < 4 ? NOT_FOUND : 0);
+        }
+        Check.due("phase() behind all flags", x.phase(), 0);
+        Check.due("no fifth flag", x.cartOf(0, 3), 4);
     }
 
     private static void winner() {
