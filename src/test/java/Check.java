@@ -24,6 +24,10 @@ final class Check {
         System.out.println("  " + what + " is\n" + got + "  due is\n" + want);
     }
 
+    static int wrongOnes() {
+        return wrong;
+    }
+
     static void finish() {
         System.out.println("      " + right + " answers as due, " + wrong + " not");
         if (wrong != 0 || right == 0) {

@@ -43,30 +43,6 @@ public final class HistoryTest {
         Check.due("count(10)", x.count(10), INVALID);
     }
 
-    /** Does one of the nine changes. */
-    private static int change(LockedCarts x, int which) {
-        switch (which) {
-            case 0:
-                return x.kind(5, 5);
-            case 1:
-                return x.wall(27, 1);
-            case 2:
-                return x.flag(1, 9);
-            case 3:
-                return x.cart(60, 2);
-            case 4:
-                return x.card(0, 2, 2, 22);
-            case 5:
-                return x.damage(0, 6);
-            case 6:
-                return x.phase();
-            case 7:
-                return x.round();
-            default:
-                return x.play();
-        }
-    }
-
     private static LockedCarts some() {
         LockedCarts x = new LockedCarts();
         x.cart(27, 1);
@@ -89,11 +65,11 @@ public final class HistoryTest {
     }
 
     private static void eachChange() {
-        for (int which = 0; which < 9; which++) {
+        for (int which = 0; which < ChangeEdges.CHANGES; which++) {
             LockedCarts x = some();
             Check.due("states ahead of " + which, x.count(7), 2);
             String before = Snapshot.whole(x);
-            int got = change(x, which);
+            int got = ChangeEdges.change(x, which);
             Check.due("change " + which + " is no error", got < 0 ? got : 0, 0);
             Check.due("states behind change " + which, x.count(7), 3);
             Check.due("undo() of change " + which, x.undo(), 2);
