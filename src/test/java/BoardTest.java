@@ -53,13 +53,12 @@ public final class BoardTest {
         LockedCarts x = new LockedCarts();
         x.cart(9, 0);
         x.kind(9, 3);
-        String before = Snapshot.whole(x);
-        Snapshot.refused(x, before, "kind(9, 7) below a cart", x.kind(9, 7), NOT_POSSIBLE);
-        Snapshot.refused(x, before, "kind(-1, 0)", x.kind(-1, 0), INVALID);
-        Snapshot.refused(x, before, "kind(64, 0)", x.kind(64, 0), INVALID);
-        Snapshot.refused(x, before, "kind(0, -1)", x.kind(0, -1), INVALID);
-        Snapshot.refused(x, before, "kind(9, 9)", x.kind(9, 9), INVALID);
-        Snapshot.refused(x, before, "kind(64, 7)", x.kind(64, 7), INVALID);
+        Check.due("kind(9, 7) below a cart", x.kind(9, 7), NOT_POSSIBLE);
+        Check.due("kind(-1, 0)", x.kind(-1, 0), INVALID);
+        Check.due("kind(64, 0)", x.kind(64, 0), INVALID);
+        Check.due("kind(0, -1)", x.kind(0, -1), INVALID);
+        Check.due("kind(9, 9)", x.kind(9, 9), INVALID);
+        Check.due("kind(64, 7)", x.kind(64, 7), INVALID);
         Check.due("another kind below a cart", x.kind(9, 8), 3);
         // A cart that is out is on no cell.
         x.cart(0, 0);
@@ -98,11 +97,10 @@ public final class BoardTest {
     private static void wallsRefused() {
         LockedCarts x = new LockedCarts();
         x.wall(0, 0);
-        String before = Snapshot.whole(x);
-        Snapshot.refused(x, before, "wall(-1, 0)", x.wall(-1, 0), INVALID);
-        Snapshot.refused(x, before, "wall(64, 0)", x.wall(64, 0), INVALID);
-        Snapshot.refused(x, before, "wall(0, -1)", x.wall(0, -1), INVALID);
-        Snapshot.refused(x, before, "wall(0, 4)", x.wall(0, 4), INVALID);
+        Check.due("wall(-1, 0)", x.wall(-1, 0), INVALID);
+        Check.due("wall(64, 0)", x.wall(64, 0), INVALID);
+        Check.due("wall(0, -1)", x.wall(0, -1), INVALID);
+        Check.due("wall(0, 4)", x.wall(0, 4), INVALID);
     }
 
     private static void flags() {
@@ -125,14 +123,13 @@ public final class BoardTest {
     private static void flagsRefused() {
         LockedCarts x = new LockedCarts();
         x.flag(0, 5);
-        String before = Snapshot.whole(x);
-        Snapshot.refused(x, before, "flag(2, 0)", x.flag(2, 0), NOT_POSSIBLE);
-        Snapshot.refused(x, before, "flag(3, 0)", x.flag(3, 0), NOT_POSSIBLE);
-        Snapshot.refused(x, before, "flag(3, 64)", x.flag(3, 64), INVALID);
-        Snapshot.refused(x, before, "flag(-1, 0)", x.flag(-1, 0), INVALID);
-        Snapshot.refused(x, before, "flag(4, 0)", x.flag(4, 0), INVALID);
-        Snapshot.refused(x, before, "flag(0, -1)", x.flag(0, -1), INVALID);
-        Snapshot.refused(x, before, "flag(0, 64)", x.flag(0, 64), INVALID);
+        Check.due("flag(2, 0)", x.flag(2, 0), NOT_POSSIBLE);
+        Check.due("flag(3, 0)", x.flag(3, 0), NOT_POSSIBLE);
+        Check.due("flag(3, 64)", x.flag(3, 64), INVALID);
+        Check.due("flag(-1, 0)", x.flag(-1, 0), INVALID);
+        Check.due("flag(4, 0)", x.flag(4, 0), INVALID);
+        Check.due("flag(0, -1)", x.flag(0, -1), INVALID);
+        Check.due("flag(0, 64)", x.flag(0, 64), INVALID);
     }
 
     private static void cells() {

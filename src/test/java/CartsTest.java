@@ -37,22 +37,20 @@ public final class CartsTest {
         LockedCarts x = new LockedCarts();
         x.cart(0, 0);
         x.kind(1, 7);
-        String before = Snapshot.whole(x);
-        Snapshot.refused(x, before, "cart(0, 1) on a cart", x.cart(0, 1), NOT_POSSIBLE);
-        Snapshot.refused(x, before, "cart(1, 1) on a pit", x.cart(1, 1), NOT_POSSIBLE);
-        Snapshot.refused(x, before, "cart(-1, 0)", x.cart(-1, 0), INVALID);
-        Snapshot.refused(x, before, "cart(64, 0)", x.cart(64, 0), INVALID);
-        Snapshot.refused(x, before, "cart(2, -1)", x.cart(2, -1), INVALID);
-        Snapshot.refused(x, before, "cart(2, 4)", x.cart(2, 4), INVALID);
-        Snapshot.refused(x, before, "cart(0, 4)", x.cart(0, 4), INVALID);
+        Check.due("cart(0, 1) on a cart", x.cart(0, 1), NOT_POSSIBLE);
+        Check.due("cart(1, 1) on a pit", x.cart(1, 1), NOT_POSSIBLE);
+        Check.due("cart(-1, 0)", x.cart(-1, 0), INVALID);
+        Check.due("cart(64, 0)", x.cart(64, 0), INVALID);
+        Check.due("cart(2, -1)", x.cart(2, -1), INVALID);
+        Check.due("cart(2, 4)", x.cart(2, 4), INVALID);
+        Check.due("cart(0, 4)", x.cart(0, 4), INVALID);
         x.cart(2, 0);
         x.cart(3, 0);
         x.cart(4, 0);
-        String full = Snapshot.whole(x);
-        Snapshot.refused(x, full, "a fifth cart", x.cart(5, 0), LIMIT);
-        Snapshot.refused(x, full, "a fifth cart on a cart", x.cart(4, 0), NOT_POSSIBLE);
-        Snapshot.refused(x, full, "a fifth cart on a pit", x.cart(1, 0), NOT_POSSIBLE);
-        Snapshot.refused(x, full, "a fifth cart nowhere", x.cart(64, 0), INVALID);
+        Check.due("a fifth cart", x.cart(5, 0), LIMIT);
+        Check.due("a fifth cart on a cart", x.cart(4, 0), NOT_POSSIBLE);
+        Check.due("a fifth cart on a pit", x.cart(1, 0), NOT_POSSIBLE);
+        Check.due("a fifth cart nowhere", x.cart(64, 0), INVALID);
         // A cart that is out is on no cell, not even on its start.
         LockedCarts y = new LockedCarts();
         y.cart(0, 0);
@@ -86,18 +84,17 @@ public final class CartsTest {
         x.cart(0, 0);
         x.card(1, 0, 0, 3);
         x.phase();
-        String before = Snapshot.whole(x);
-        Snapshot.refused(x, before, "card into a locked register", x.card(0, 4, 0, 1), NOT_POSSIBLE);
-        Snapshot.refused(x, before, "card into an earlier register", x.card(0, 0, 0, 1), NOT_POSSIBLE);
-        Snapshot.refused(x, before, "card of a cart that is out", x.card(1, 2, 0, 1), NOT_POSSIBLE);
-        Snapshot.refused(x, before, "card(-1, ..)", x.card(-1, 2, 0, 1), INVALID);
-        Snapshot.refused(x, before, "card(2, ..)", x.card(2, 2, 0, 1), INVALID);
-        Snapshot.refused(x, before, "card(0, -1, ..)", x.card(0, -1, 0, 1), INVALID);
-        Snapshot.refused(x, before, "card(0, 5, ..)", x.card(0, 5, 0, 1), INVALID);
-        Snapshot.refused(x, before, "move -1", x.card(0, 2, -1, 1), INVALID);
-        Snapshot.refused(x, before, "move 7", x.card(0, 4, 7, 1), INVALID);
-        Snapshot.refused(x, before, "rank 0", x.card(1, 2, 0, 0), INVALID);
-        Snapshot.refused(x, before, "rank 1000", x.card(0, 0, 0, 1000), INVALID);
+        Check.due("card into a locked register", x.card(0, 4, 0, 1), NOT_POSSIBLE);
+        Check.due("card into an earlier register", x.card(0, 0, 0, 1), NOT_POSSIBLE);
+        Check.due("card of a cart that is out", x.card(1, 2, 0, 1), NOT_POSSIBLE);
+        Check.due("card(-1, ..)", x.card(-1, 2, 0, 1), INVALID);
+        Check.due("card(2, ..)", x.card(2, 2, 0, 1), INVALID);
+        Check.due("card(0, -1, ..)", x.card(0, -1, 0, 1), INVALID);
+        Check.due("card(0, 5, ..)", x.card(0, 5, 0, 1), INVALID);
+        Check.due("move -1", x.card(0, 2, -1, 1), INVALID);
+        Check.due("move 7", x.card(0, 4, 7, 1), INVALID);
+        Check.due("rank 0", x.card(1, 2, 0, 0), INVALID);
+        Check.due("rank 1000", x.card(0, 0, 0, 1000), INVALID);
         Check.due("register 3 is free", x.card(0, 3, 0, 1), 1);
     }
 
@@ -120,13 +117,12 @@ public final class CartsTest {
         x.cart(20, 0);
         x.card(0, 0, 0, 1);
         x.phase();
-        String before = Snapshot.whole(x);
-        Snapshot.refused(x, before, "damage of a cart that is out", x.damage(0, 1), NOT_POSSIBLE);
-        Snapshot.refused(x, before, "damage(0, 10)", x.damage(0, 10), INVALID);
-        Snapshot.refused(x, before, "damage(1, 10)", x.damage(1, 10), INVALID);
-        Snapshot.refused(x, before, "damage(1, -10)", x.damage(1, -10), INVALID);
-        Snapshot.refused(x, before, "damage(2, 1)", x.damage(2, 1), INVALID);
-        Snapshot.refused(x, before, "damage(-1, 1)", x.damage(-1, 1), INVALID);
+        Check.due("damage of a cart that is out", x.damage(0, 1), NOT_POSSIBLE);
+        Check.due("damage(0, 10)", x.damage(0, 10), INVALID);
+        Check.due("damage(1, 10)", x.damage(1, 10), INVALID);
+        Check.due("damage(1, -10)", x.damage(1, -10), INVALID);
+        Check.due("damage(2, 1)", x.damage(2, 1), INVALID);
+        Check.due("damage(-1, 1)", x.damage(-1, 1), INVALID);
     }
 
     private static void locks() {

@@ -122,22 +122,30 @@ final class ChangeEdges {
 
     private static void noChanges() {
         Edge.of(18, "Changes and errors", "round and play that return no error.");
-        LockedCarts x = some(GOOD);
-        x.flag(0, 63);
+        LockedCarts x = busy(GOOD);
+        readAll(x, 2);
+        Check.same("all behind calls that are no changes", Snapshot.whole(x), Snapshot.whole(busy(GOOD)));
+        LockedCarts y = some(GOOD);
+        y.flag(0, 63);
+        readAll(y, 1);
+        y.type('r');
+        y.clearText();
+        Edge.due("states behind calls that are none", y.count(7), 3);
+        Edge.due("undo()", y.undo(), 2);
+        Edge.due("flags then", y.count(3), 0);
+    }
+
+    /** The calls that only read. */
+    private static void readAll(LockedCarts x, int cart) {
         x.cellOf(0, 0);
-        x.cartOf(0, 0);
-        x.cardOf(0, 0, 0);
+        x.cartOf(cart, 0);
+        x.cardOf(cart, 0, 0);
         x.turn(0);
-        x.would(0, 20, 0);
-        x.best(0, 1, 0);
-        x.steps(0, 1);
+        x.would(cart, 20, 0);
+        Edge.due("best() of one that has a flag", Math.min(0, x.best(cart, 1, 0)), 0);
+        x.steps(0, 63);
         x.count(7);
-        x.type('r');
         x.fault(0);
-        x.clearText();
-        Edge.due("states behind calls that are none", x.count(7), 3);
-        Edge.due("undo()", x.undo(), 2);
-        Edge.due("flags then", x.count(3), 0);
     }
 
     private static LockedCarts changed(int howOften) {

@@ -68,12 +68,11 @@ public final class HistoryTest {
         for (int which = 0; which < ChangeEdges.CHANGES; which++) {
             LockedCarts x = some();
             Check.due("states ahead of " + which, x.count(7), 2);
-            String before = Snapshot.whole(x);
             int got = ChangeEdges.change(x, which);
             Check.due("change " + which + " is no error", got < 0 ? got : 0, 0);
             Check.due("states behind change " + which, x.count(7), 3);
             Check.due("undo() of change " + which, x.undo(), 2);
-            Check.same("what there is behind undo of " + which, Snapshot.whole(x), before);
+            Check.same("what there is behind undo of " + which, Snapshot.whole(x), Snapshot.whole(some()));
         }
         LockedCarts x = some();
         for (int i = 0; i < 3; i++) {
@@ -112,7 +111,7 @@ public final class HistoryTest {
         Check.due("its kind at the very last", x.cellOf(0, 0), 4);
     }
 
-    private static void everythingButTheText() {
+    private static LockedCarts raced(int phases) {
         LockedCarts x = new LockedCarts();
         x.cart(0, 0);
         x.cart(9, 0);
@@ -120,18 +119,25 @@ public final class HistoryTest {
         x.card(0, 1, 0, 5);
         x.card(1, 0, 0, 5);
         x.wall(8, 0);
-        String[] races = new String[4];
-        for (int i = 0; i < 4; i++) {
-            races[i] = Snapshot.race(x);
+        for (int i = 0; i < phases; i++) {
             x.phase();
         }
-        x.type('r');
-        x.type(';');
-        for (int i = 3; i >= 0; i--) {
-            Check.due("undo() of phase " + i, x.undo(), i);
-            Check.same("the race ahead of phase " + i, Snapshot.race(x), races[i]);
+        return x;
+    }
+
+    private static void everythingButTheText() {
+        for (int phases = 3; phases >= 0; phases--) {
+            LockedCarts x = raced(4);
+            x.type('r');
+            x.type(';');
+            for (int i = 3; i >= phases; i--) {
+                Check.due("undo() of phase " + i, x.undo(), i);
+            }
+            Check.same("the race ahead of phase " + phases, Snapshot.race(x), Snapshot.race(raced(phases)));
             Check.due("the text stays", x.count(8), 2);
         }
+        LockedCarts x = raced(1);
+        x.type('r');
         x.phase();
         x.clearText();
         x.undo();

@@ -226,6 +226,20 @@ final class PhaseEdges {
         x.phase();
         Edge.due("touched by one that pushed the other one off", x.cartOf(0, 3), 1);
         Edge.due("touched by the one on a later flag", x.cartOf(1, 3), 0);
+        // Where it is behind the belts counts: carried upon the flag, or off it, or out.
+        for (int flag = 27; flag <= 29; flag++) {
+            LockedCarts y = Races.of(27, 1);
+            y.kind(27, 2);
+            y.flag(0, flag);
+            y.phase();
+            Edge.due("touched on " + flag + " by one carried to 28", y.cartOf(0, 3), flag == 28 ? 1 : 0);
+        }
+        LockedCarts out = Races.of(26, 1);
+        out.kind(26, 2);
+        out.kind(27, 7);
+        out.flag(0, 27);
+        out.phase();
+        Edge.due("touched by one that is carried out", out.cartOf(0, 3), 0);
     }
 
     private static void oneFlagInAPhase() {

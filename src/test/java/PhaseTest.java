@@ -31,8 +31,7 @@ public final class PhaseTest {
 
     private static void noCart() {
         LockedCarts x = new LockedCarts();
-        String before = Snapshot.whole(x);
-        Snapshot.refused(x, before, "phase() without carts", x.phase(), NOT_POSSIBLE);
+        Check.due("phase() without carts", x.phase(), NOT_POSSIBLE);
         x.cart(0, 0);
         Check.due("phase() without cards", x.phase(), 0);
         Check.due("the next phase", x.count(1), 1);

@@ -48,8 +48,7 @@ public final class RoundTest {
 
     private static void wholeRounds() {
         LockedCarts x = new LockedCarts();
-        String before = Snapshot.whole(x);
-        Snapshot.refused(x, before, "round() without carts", x.round(), NOT_POSSIBLE);
+        Check.due("round() without carts", x.round(), NOT_POSSIBLE);
         x.cart(0, 0);
         x.cart(24, 1);
         x.cart(63, 2);

@@ -44,10 +44,4 @@ final class Snapshot {
         }
         return all.append('\n').toString();
     }
-
-    /** Checks that a call answered an error and changed nothing; 'before' was taken ahead of the call. */
-    static void refused(LockedCarts x, String before, String call, int got, int error) {
-        Check.due(call, got, error);
-        Check.same("what there is behind " + call, whole(x), before);
-    }
 }

@@ -52,17 +52,15 @@ public final class TextTest {
     private static void typingRefused() {
         LockedCarts x = new LockedCarts();
         x.type('k');
-        String before = Snapshot.whole(x);
-        Snapshot.refused(x, before, "type(31)", x.type(31), INVALID);
-        Snapshot.refused(x, before, "type(127)", x.type(127), INVALID);
-        Snapshot.refused(x, before, "type(-1)", x.type(-1), INVALID);
-        Snapshot.refused(x, before, "type(65536 + 48)", x.type(65536 + 48), INVALID);
+        Check.due("type(31)", x.type(31), INVALID);
+        Check.due("type(127)", x.type(127), INVALID);
+        Check.due("type(-1)", x.type(-1), INVALID);
+        Check.due("type(65536 + 48)", x.type(65536 + 48), INVALID);
         while (x.count(8) < 60) {
             x.type('1');
         }
-        String full = Snapshot.whole(x);
-        Snapshot.refused(x, full, "type(48) into a full text", x.type(48), LIMIT);
-        Snapshot.refused(x, full, "type(127) into a full text", x.type(127), INVALID);
+        Check.due("type(48) into a full text", x.type(48), LIMIT);
+        Check.due("type(127) into a full text", x.type(127), INVALID);
     }
 
     private static void clearing() {
@@ -94,9 +92,14 @@ public final class TextTest {
         Check.due("fault(3) of nothing", x.fault(3), INVALID);
     }
 
-    private static void formsBreakOff() {
+    private static LockedCarts withACart() {
         LockedCarts x = new LockedCarts();
         x.cart(0, 1);
+        return x;
+    }
+
+    private static void formsBreakOff() {
+        LockedCarts x = withACart();
         String[] broken = {"x", " r;", ";", ",", "1,1;", "K1,1;", "R;"};
         for (String text : broken) {
             fault(x, text, 0, 1, 0);
@@ -105,12 +108,13 @@ public final class TextTest {
         String[] whole = {"k63,008;", "w009,3;", "c21,0;", "p0,1,06,999;", "r;"};
         for (String text : whole) {
             for (int length = 1; length < text.length(); length++) {
-                fault(x, text.substring(0, length), 0, 1, length);
-                fault(x, "k1,1;" + text.substring(0, length), 5, 1, length);
-                fault(x, text.substring(0, length) + "x", 0, 1, length);
-                fault(x, text.substring(0, length) + " " + text.substring(length), 0, 1, length);
+                LockedCarts y = withACart();
+                fault(y, text.substring(0, length), 0, 1, length);
+                fault(y, "k1,1;" + text.substring(0, length), 5, 1, length);
+                fault(y, text.substring(0, length) + "x", 0, 1, length);
+                fault(y, text.substring(0, length) + " " + text.substring(length), 0, 1, length);
             }
-            noFault(x, text);
+            noFault(withACart(), text);
         }
         fault(x, "k0001,1;", 0, 1, 4);
         fault(x, "k1,0001;", 0, 1, 6);
@@ -166,14 +170,18 @@ public final class TextTest {
         fault(x, "c0,0;r;k64,0;k", 7, 2, INVALID);
     }
 
-    private static void faultChangesNothing() {
+    private static LockedCarts withALongText() {
         LockedCarts x = new LockedCarts();
         x.cart(27, 1);
         x.card(0, 0, 2, 5);
         write(x, "k9,5;w3,1;c9,0;p1,0,0,9;r;c9,1;c9,1;");
-        String before = Snapshot.whole(x);
+        return x;
+    }
+
+    private static void faultChangesNothing() {
+        LockedCarts x = withALongText();
         Check.due("position", x.fault(0), 31);
-        Check.same("what there is behind fault", Snapshot.whole(x), before);
+        Check.same("what there is behind fault", Snapshot.whole(x), Snapshot.whole(withALongText()));
         x.type('r');
         Check.due("position with more behind it", x.fault(0), 31);
     }
@@ -228,8 +236,7 @@ public final class TextTest {
         String[] texts = {"k1,1;k1,1", "k1,1;k64,1;", "x", "r;r;c27,1;c27,1;", "k1,1;p0,0,0,0;"};
         for (String text : texts) {
             write(x, text);
-            String before = Snapshot.whole(x);
-            Snapshot.refused(x, before, "play() of '" + text + "'", x.play(), NOT_POSSIBLE);
+            Check.due("play() of '" + text + "'", x.play(), NOT_POSSIBLE);
         }
     }
 
